@@ -20,8 +20,8 @@ final class Due {
         System.out.println(what);
     }
 
-    static boolean anyWrong() {
-        return wrong > 0;
+    static int wrong() {
+        return wrong;
     }
 
     static void end() {

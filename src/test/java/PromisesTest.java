@@ -301,11 +301,12 @@ public final class PromisesTest {
     }
 
     private static void promise11() {
-        EvenWhite x = new EvenWhite();
-        x.letters(3);
-        x.drift(99);
-        x.body(1, 17);
         for (int change = 0; change < 10; change++) {
+            // A new one each time: an object is good for 512 calls.
+            EvenWhite x = new EvenWhite();
+            x.letters(3);
+            x.drift(99);
+            x.body(1, 17);
             String before = all(x);
             long spaces = x.space(0, RIGHT, 0);
             int undone = (int) x.told(13);
