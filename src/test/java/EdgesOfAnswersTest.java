@@ -739,6 +739,18 @@ public final class EdgesOfAnswersTest extends Edges {
         }
     }
 
+    /** Right of 0 is 2, left of 0 is 1, the others are open. */
+    static void promise17_spaces_that_are_whole_at_both_sides() {
+        EvenWhite x = halves();
+        x.bound(1, 24);
+        x.side(1, LEFT, 0, 8);
+        whole(x, 2, 0, 1, 0);
+        long[] want = {24, 24, 8, 8};
+        for (int k = 0; k < 4; k++) {
+            due("white of " + k / 2 + k % 2, x.white(k / 2, k % 2), want[k]);
+        }
+    }
+
     static void promise17_the_greatest() {
         EvenWhite x = eachAlone(1, 500);
         due("white(0, 0)", x.white(0, 0), 504);

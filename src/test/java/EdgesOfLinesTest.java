@@ -213,6 +213,18 @@ public final class EdgesOfLinesTest extends Edges {
         same("written", written(line(x, 0, 0)), "a=a:-463/8");
     }
 
+    static void promise21_wide_just_below_0() {
+        EvenWhite x = of(1);
+        x.bound(0, 30);
+        x.bound(1, 0);
+        x.body(0, 1);
+        x.weight(0, 0, 1);
+        x.side(0, LEFT, 0, 24);
+        same("written", written(line(x, 0, 0)), "a=a:-1/1");
+        x.side(0, LEFT, 0, 17);
+        same("written", written(line(x, 0, 0)), "a=a:-1/8");
+    }
+
     static void promise21_wide_of_0_has_no_sign_ahead() {
         EvenWhite x = back(of(1), 0, LEFT, 16);
         x.bound(1, 0);
@@ -260,6 +272,18 @@ public final class EdgesOfLinesTest extends Edges {
         same("undone", written(x), "a=a:3/1");
         x.side(0, LEFT, 0, 8);
         same("behind side", written(x), "a=a:2/1");
+    }
+
+    /** No other question is asked between the change and the sign. */
+    static void promise21_one_sign_alone_is_told_anew_behind_a_change() {
+        EvenWhite x = line(eachAlone(1, 4), 0, 0);
+        due("sign(4)", x.sign(4), '4');
+        x.bound(1, 8);
+        due("sign(4) behind bound", x.sign(4), '2');
+        x.weight(0, 0, 0);
+        due("sign(1) behind weight", x.sign(1), '-');
+        x.undo();
+        due("sign(1), undone", x.sign(1), '=');
     }
 
     // ---- promise 22: keep
